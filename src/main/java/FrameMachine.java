@@ -205,7 +205,7 @@ public final class FrameMachine {
             }
             stepsToSend--;
             if (stepsToSend == 0) {
-                sent[sentCount & KEPT - 1] = sendingByte;
+                sent[sentCount % KEPT] = sendingByte;
                 sentCount++;
             }
         }
@@ -228,7 +228,7 @@ public final class FrameMachine {
             if (i < 0 || i >= KEPT || i >= sentCount) {
                 return NONE;
             }
-            return sent[sentCount - 1 - i & KEPT - 1];
+            return sent[(sentCount - 1 - i) % KEPT];
         }
 
         int readByte(int address) {
@@ -888,8 +888,8 @@ public final class FrameMachine {
                 case Instruction.LOAD: putMarked(value); break;
                 case Instruction.STORE: storeMarked(data); break;
                 case Instruction.LOADA: registers.address[r] = withSign(value, size); break;
-                case Instruction.ADD: registers.putData(r, size, arithmetic.sum(data, value, size)); break;
-                case Instruction.SUB: registers.putData(r, size, arithmetic.difference(data, value, size)); break;
+                case Instruction.ADD: put(arithmetic.sum(data, value, size)); break;
+                case Instruction.SUB: put(arithmetic.difference(data, value, size)); break;
                 case Instruction.CMP: arithmetic.compare(data, value, size); break;
                 case Instruction.AND: putMarked(data & value); break;
                 case Instruction.OR: putMarked(data | value); break;
@@ -902,8 +902,8 @@ public final class FrameMachine {
                 case Instruction.TEST: arithmetic.markResult(value, size); break;
                 case Instruction.NEGATE: operand.store(arithmetic.difference(0, value, size)); break;
                 case Instruction.NOT: storeMarked(~value); break;
-                case Instruction.SHIFT: shift(); break;
-                case Instruction.MULTIPLY: multiply(); break;
+                case Instruction.SHIFT: shift(data); break;
+                case Instruction.MULTIPLY: multiply(data & 65535, value); break;
                 case Instruction.DIVIDE: divide(data & 0xFFFFFFFFL, value, false); break;
                 case Instruction.DIVIDES: divide(data, (short) value, true); break;
                 case Instruction.BRANCH: branch(); break;
@@ -919,8 +919,12 @@ public final class FrameMachine {
             }
         }
 
-        private void putMarked(int result) {
+        private void put(int result) {
             registers.putData(instruction.r, instruction.size, result);
+        }
+
+        private void putMarked(int result) {
+            put(result);
             arithmetic.markResult(result, instruction.size);
         }
 
@@ -931,18 +935,14 @@ public final class FrameMachine {
             }
         }
 
-        private void shift() {
-            int r = instruction.r & 7;
-            int size = instruction.size;
+        private void shift(int data) {
             int places = instruction.q == 0 ? 8 : instruction.q;
-            registers.putData(r, size, arithmetic.shift(registers.data[r], size, instruction.m, places));
+            put(arithmetic.shift(data, instruction.size, instruction.m, places));
         }
 
-        private void multiply() {
-            int r = instruction.r & 7;
-            int product = (registers.data[r] & 65535) * operand.value;
-            registers.data[r] = product;
-            arithmetic.markResult(product, LONG);
+        private void multiply(int a, int b) {
+            registers.putData(instruction.r, LONG, a * b);
+            arithmetic.markResult(a * b, LONG);
         }
 
         private void divide(long dividend, long divisor, boolean signed) {

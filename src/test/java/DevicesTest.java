@@ -86,9 +86,16 @@ public final class DevicesTest {
         fullRound();
     }
 
-    /** With a reload of 0 the timer is due behind 256 steps, and at 256 again. */
     private static void fullRound() {
-        FrameMachine x = new FrameMachine();
+        fullRound(new FrameMachine());
+        Rig rig = new Rig().status(OFF);
+        write(rig, 61440, 5);
+        rig.x.reset();
+        fullRound(rig.x);
+    }
+
+    /** With a reload of 0 the timer is due behind 256 steps, and the count is 256 again. */
+    private static void fullRound(FrameMachine x) {
         int[] words = {Rig.word(Rig.STORE, Rig.BYTE, 0, 6, 1), 0, 61441, Rig.word(Rig.BRANCH, 0, 0, 0, 0), 65534};
         for (int i = 0; i < words.length; i++) {
             x.poke(512 + 2 * i, words[i]);

@@ -7,6 +7,8 @@ public final class InstructionsTest {
         addresses();
         sums();
         differences();
+        manySumsAndDifferences();
+        everyRegister();
         logic();
         clearNegateNot();
         everyShift();
@@ -92,6 +94,52 @@ public final class InstructionsTest {
                 two(Rig.CMP, one[0], rest | one[1], one[2], before).dueD(0, rest | one[1]).dueD(1, one[2])
                     .dueFlags(one[4] & ~Rig.X | before & Rig.X);
             }
+        }
+    }
+
+    private static void manySumsAndDifferences() {
+        int[] values = {0, 1, 2, 0x7F, 0x80, 0xFF, 0x7FFF, 0x8000, 0xFFFF, 0x10000, 0x7FFFFFFF, 0x80000000, -1, 0x12345678};
+        for (int size = 0; size < 3; size++) {
+            for (int a : values) {
+                for (int b : values) {
+                    two(Rig.ADD, size, a, b, 0).dueFlags(flagsOf(size, signed(a, size) + signed(b, size),
+                        unsigned(a, size) + unsigned(b, size)));
+                    two(Rig.SUB, size, a, b, 0).dueFlags(flagsOf(size, signed(a, size) - signed(b, size),
+                        unsigned(a, size) - unsigned(b, size)));
+                }
+            }
+        }
+    }
+
+    private static long signed(int value, int size) {
+        return size == 0 ? (byte) value : size == 1 ? (short) value : value;
+    }
+
+    private static long unsigned(int value, int size) {
+        return size == 0 ? value & 0xFF : size == 1 ? value & 0xFFFF : value & 0xFFFFFFFFL;
+    }
+
+    /** The flags of a sum that is told exactly, once with signs and once without. */
+    private static int flagsOf(int size, long withSigns, long without) {
+        int low = (int) withSigns;
+        return (signed(low, size) < 0 ? Rig.N : 0) | (signed(low, size) == 0 ? Rig.Z : 0)
+            | (signed(low, size) != withSigns ? Rig.V : 0) | (unsigned((int) without, size) != without ? Rig.C | Rig.X : 0);
+    }
+
+    /** The r of each kind of instruction counts. */
+    private static void everyRegister() {
+        for (int r = 0; r < 8; r++) {
+            int q = r == 7 ? 0 : 7;
+            new Rig().d(q, 9).code(Rig.LOAD, Rig.LONG, r, 0, q).steps(1).dueD(r, 9);
+            new Rig().d(r, 9).code(Rig.STORE, Rig.LONG, r, 0, q).steps(1).dueD(q, 9);
+            new Rig().d(q, 9).code(Rig.LOADA, Rig.LONG, r, 0, q).steps(1).dueA(r, 9);
+            new Rig().d(r, 20).d(q, 9).code(Rig.ADD, Rig.LONG, r, 0, q).steps(1).dueD(r, 29).dueD(q, 9);
+            new Rig().d(r, 20).d(q, 9).code(Rig.SUB, Rig.LONG, r, 0, q).steps(1).dueD(r, 11).dueD(q, 9);
+            new Rig().d(r, 20).d(q, 9).code(Rig.SUBTO, Rig.LONG, r, 0, q).steps(1).dueD(r, 20).dueD(q, -11);
+            new Rig().d(r, 20).code(Rig.SHIFT, Rig.LONG, r, 3, 2).steps(1).dueD(r, 5);
+            new Rig().d(r, 20).d(q, 9).code(Rig.MULTIPLY, Rig.WORD, r, 0, q).steps(1).dueD(r, 180).dueD(q, 9);
+            new Rig().d(r, 20).d(q, 9).code(Rig.DIVIDE, Rig.WORD, r, 0, q).steps(1).dueD(r, 2 << 16 | 2).dueD(q, 9);
+            new Rig().d(r, 20).d(q, 9).code(Rig.CHECK, Rig.WORD, r, 0, q).steps(1).dueException(6);
         }
     }
 
@@ -208,6 +256,8 @@ public final class InstructionsTest {
         two(Rig.DIVIDE, Rig.WORD, 0xFFFF * 2 + 1, 2, 0).dueD(0, 1 << 16 | 0xFFFF).dueFlags(Rig.N);
         two(Rig.DIVIDE, Rig.WORD, 0x20000, 2, ALL).dueD(0, 0x20000).dueFlags(ALL & ~Rig.C);
         two(Rig.DIVIDE, Rig.WORD, -1, 0xFFFF, 0).dueD(0, -1).dueFlags(Rig.V);
+        two(Rig.DIVIDE, Rig.WORD, 7, 1, 0).dueD(0, 7).dueFlags(0);
+        two(Rig.DIVIDES, Rig.WORD, -7, 1, 0).dueD(0, 0xFFF9).dueFlags(Rig.N);
         two(Rig.DIVIDE, Rig.WORD, 0xFFFEFFFF, 0xFFFF, 0).dueD(0, 0xFFFEFFFF).dueFlags(Rig.N);
         Rig zero = new Rig().d(0, 5).d(1, 0x10000).status(Rig.S | ALL).code(Rig.DIVIDE, Rig.WORD, 0, 0, 1);
         zero.steps(1).dueException(5).dueShortFrame(Rig.S | ALL, 514).dueD(0, 5).dueFlags(ALL);
