@@ -76,6 +76,11 @@ final class Rig {
         return this;
     }
 
+    Rig other(int v) {
+        x.set(OTHER_STACK, v);
+        return this;
+    }
+
     Rig longAt(int a, int v) {
         return memory(a, v >>> 16).memory(a + 2, v & 65535);
     }
@@ -85,6 +90,12 @@ final class Rig {
         for (int i = 0; i < n; i++) {
             due("run(1)", x.run(1), 1);
         }
+        return this;
+    }
+
+    /** So many steps in one call, in which so much must be done. */
+    Rig run(int n, int want) {
+        due("run(" + n + ")", x.run(n), want);
         return this;
     }
 
@@ -128,6 +139,11 @@ final class Rig {
         return this;
     }
 
+    Rig dueOther(int want) {
+        due("OTHER", x.get(OTHER_STACK), want);
+        return this;
+    }
+
     Rig dueAbout(int what, int want) {
         due("about(" + what + ")", x.about(what), want);
         return this;
@@ -155,6 +171,25 @@ final class Rig {
             .dueWord(a + 8, status).dueLong(a + 10, pc);
     }
 
+    /** A test of its own for one sentence of the document, whose words are told when it does not hold. */
+    static void sentence(String words, Runnable test) {
+        int callsBefore = calls;
+        int wrongBefore = wrong;
+        try {
+            test.run();
+        } catch (RuntimeException e) {
+            wrong++;
+            System.out.println("thrown: " + e);
+        }
+        if (calls == callsBefore) {
+            wrong++;
+            System.out.println("nothing was looked at");
+        }
+        if (wrong != wrongBefore) {
+            System.out.println("    this does not hold: " + words);
+        }
+    }
+
     static void due(String what, long got, long want) {
         calls++;
         if (got == want) {
@@ -162,6 +197,10 @@ final class Rig {
         }
         wrong++;
         System.out.println(place() + ": " + what + " is " + got + ", due is " + want);
+    }
+
+    static void due(String what, boolean got, boolean want) {
+        due(what, got ? 1 : 0, want ? 1 : 0);
     }
 
     static void refused(String what, Runnable call) {
