@@ -273,7 +273,7 @@ public final class EdgesOfCallsTest {
             stopped.dueAbout(0, 0).run(1, 1).duePc(702);
             Rig halted = halted().longAt(4, 700).memory(700, NOTHING);
             halted.x.reset();
-            halted.dueAbout(0, 0).run(1, 1).duePc(702);
+            halted.dueAbout(0, 0).run(1, 1).duePc(702).dueAbout(0, 0).dueAbout(5, 2);
         });
         Rig.sentence("8: S is 1, T 0, the mask 7", () -> {
             for (int v : new int[] {0, 31, 32768, 8192, 32768 + 8192 + 31, 42783, 256}) {
@@ -311,6 +311,27 @@ public final class EdgesOfCallsTest {
                 rig.pc(700).steps(1);
             }
             rig.dueAbout(2, 0);
+        });
+        Rig.sentence("8: devices as at first (the reload, too: 0, which counts as 256)", () -> {
+            FrameMachine x = new FrameMachine();
+            int[] words = {Rig.word(Rig.STORE, Rig.BYTE, 0, 6, 1), 0, 61440, Rig.word(Rig.STORE, Rig.BYTE, 1, 6, 1), 0, 61441,
+                Rig.word(Rig.BRANCH, 0, 0, 0, 0), 65534};
+            for (int i = 0; i < words.length; i++) {
+                x.poke(512 + 2 * i, words[i]);
+            }
+            x.set(0, 5);
+            x.set(1, 1);
+            x.set(17, 512);
+            x.run(2);
+            x.reset();
+            x.set(17, 518);
+            x.run(1);
+            for (int i = 0; i < 32; i++) {
+                x.run(8);
+            }
+            Rig.due("about(3)", x.about(3), 256);
+            x.run(1);
+            Rig.due("about(3)", x.about(3), 255);
         });
         Rig.sentence("8: (what has gone stays told)", () -> {
             FrameMachine x = sent(17);

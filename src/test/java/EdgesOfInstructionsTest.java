@@ -474,6 +474,8 @@ public final class EdgesOfInstructionsTest {
                 two(Rig.CHECK, 1, 1, 0, flags).dueException(6).dueFlags(flags & ~N).dueShortFrame(Rig.S | flags & ~N, 514);
                 two(Rig.CHECK, 1, 0x7FFF, 0x7FFF, flags).dueNoException().dueFlags(flags);
                 two(Rig.CHECK, 1, 0x7FFF, 0x7FFE, flags).dueException(6).dueFlags(flags & ~N);
+                two(Rig.CHECK, 1, 0, 0xFFFF, flags).dueException(6).dueFlags(flags & ~N);
+                two(Rig.CHECK, 1, 0x7FFF, 0x8000, flags).dueException(6).dueFlags(flags & ~N);
                 two(Rig.CHECK, 1, 5, 0x10005, flags).dueNoException().dueFlags(flags);
                 two(Rig.CHECK, 1, 6, 0x10005, flags).dueException(6).dueFlags(flags & ~N);
             }
