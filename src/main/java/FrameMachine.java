@@ -22,6 +22,7 @@ public final class FrameMachine {
     private static final int BYTE = 0;
     private static final int WORD = 1;
     private static final int LONG = 2;
+    private static final int TOP_OF_LONG = 0x80000000;
 
     private static final int BUS_ERROR = 2;
     private static final int ADDRESS_ERROR = 3;
@@ -141,7 +142,7 @@ public final class FrameMachine {
     }
 
     private static int topBitOf(int size) {
-        return size == BYTE ? 128 : size == WORD ? 32768 : Integer.MIN_VALUE;
+        return size == BYTE ? 128 : size == WORD ? 32768 : TOP_OF_LONG;
     }
 
     private static int withSign(int value, int size) {
@@ -668,7 +669,7 @@ public final class FrameMachine {
         }
 
         private static boolean isBelow(int a, int b) {
-            return (a ^ Integer.MIN_VALUE) < (b ^ Integer.MIN_VALUE);
+            return (a ^ TOP_OF_LONG) < (b ^ TOP_OF_LONG);
         }
 
         /** Place by place, as V and C tell of what happened on the way. */
